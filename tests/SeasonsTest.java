@@ -123,6 +123,18 @@ public final class SeasonsTest {
         Calls.due("0 at least", x.look(2, 9), 0);
         Calls.due("all eaten", x.look(3, 9), 0);
         Calls.due("one eaten", x.look(4, 9), 5 + 9 - 1 - 1);
+        x.seasons(34);
+        x.seasons(36);
+        x.field(1, 6, 9, 0, 0, 0);
+        Calls.due("a year of drain is left", x.look(1, 4), 1);
+        Calls.due("worth by it", x.look(1, 12), 220);
+        x.seasons(2);
+        Calls.due("drained for the last time", x.look(1, 9), 8 + 6 - 3);
+        x.seasons(2);
+        Calls.due("none is left", x.look(1, 4), 0);
+        Calls.due("worth without", x.look(1, 12), 100 + 120 - 90 - 10);
+        x.seasons(2);
+        Calls.due("not drained", x.look(1, 9), 8 + 6 - 9 - 1);
         x.give(0);
         x.seasons(4);
         Calls.due("without a crop", x.look(4, 9), 0);
@@ -382,6 +394,9 @@ public final class SeasonsTest {
         Calls.due("200 less 2", x.owed(farm), 198);
         int other = Calls.yearly(x, 4, 4, 0, "owe lime 1;waste 7");
         Calls.due("0 at least", x.owed(other), 0);
+        int rich = Calls.yearly(x, 6, 6, 9, "owe drain 0");
+        x.rent(rich);
+        Calls.due("not by another's coin", x.owed(farm), 198);
         int poor = Calls.yearly(x, 16, 16, 0, "owe drain 10;rent 250;put 10 if year<1");
         x.work(16, false);
         x.notice(poor);
@@ -418,6 +433,12 @@ public final class SeasonsTest {
         Calls.due("rank 4", x.arrears(4), -1);
         Calls.due("rank -1", x.arrears(-1), -1);
         Calls.due("all arrears", x.count(6), 1800);
+        GreatEstate y = new GreatEstate();
+        y.field(0, 0, 9, 20, 0, 0);
+        Calls.yearly(y, 0, 0, 4, "rent 5");
+        y.seasons(3);
+        Calls.due("arrears of 1", y.led(0, 3), 1);
+        Calls.due("are some", y.arrears(0), 0);
     }
 
     private static void sums() {

@@ -9,6 +9,7 @@ public final class TextsTest {
         depth();
         linesInAText();
         whenATextIsRead();
+        wrongTextsLeaveRoom();
         Calls.finish();
     }
 
@@ -110,6 +111,12 @@ public final class TextsTest {
         act("strike years 5", 0, 13);
         act("sell;part land 5;bogus", 0, 17);
         act("yearsx 5", 0, 0);
+        act("sellz", 0, 0);
+        act("sella", 0, 0);
+        act("sell{", 0, 4);
+        act("sell`", 0, 4);
+        act("years /5", 0, 6);
+        act("years 5:", 0, 7);
         act("year 5", 0, 0);
     }
 
@@ -170,6 +177,17 @@ public final class TextsTest {
         }
         full.append("<999".substring(0, 400 - full.length()));
         act(full.toString(), 1, -1);
+    }
+
+    private static void wrongTextsLeaveRoom() {
+        GreatEstate x = new GreatEstate();
+        String sum = "1+1+1+1+1+1+1+1+1+1+1+1+1+1+1+1+1+1+1+1+1+1+1+1+1+1+1+1+1+1+1+1+1+1+1+1+1+1+1+1+1+1+1";
+        for (int i = 0; i < 9; i++) {
+            Calls.tape(x, "rent 1 if " + sum + ">" + sum + ">");
+            Calls.dueNumber("wrong text " + i, () -> x.let(0, 0, 0, 0, false));
+        }
+        Calls.due("a right one", Calls.yearly(x, 0, 0, 0, "rent 3 if " + sum + ">42;rent 5 if " + sum + "<43;rent 7 if " + sum + ">999999"), 0);
+        Calls.due("its rent", x.rent(0), 3);
     }
 
     private static void whenATextIsRead() {

@@ -117,8 +117,9 @@ public final class WordsTest {
             "2<1 and 2<1 or 1<2", "1<2 or 2<1 and 2<1", "(1<2 or 2<1) and 2<1", "not 2<1 and 1<2", "not (2<1 or 1<2)",
             "not 1<2 or 1<2", "1+1+1>2", "1+1+1>3", "5<2+2+2", "6<2+2+2", "year<1", "wheat>9 and wheat<11",
             "barley+turnips+grass>29", "not(1<2 and(2<1 or not 3<2))", "age+worn+wet+arrears<1", "soil<5 or soil>5",
-            "2<1 or 2<1 or 2<1 or 1<2", "1<2 and 1<2 and 1<2 and 2<1"};
-        int[] hold = {1, 0, 0, 0, 1, 0, 1, 0, 1, 1, 1, 0, 1, 0, 1, 1, 0, 1, 0, 1, 1, 1, 0, 1, 0, 1, 0};
+            "2<1 or 2<1 or 2<1 or 1<2", "1<2 and 1<2 and 1<2 and 2<1",
+            "999999>999998", "999999+999999+999999>999999+999999"};
+        int[] hold = {1, 0, 0, 0, 1, 0, 1, 0, 1, 1, 1, 0, 1, 0, 1, 1, 0, 1, 0, 1, 1, 1, 0, 1, 0, 1, 0, 1, 1};
         for (int i = 0; i < conditions.length; i++) {
             GreatEstate x = new GreatEstate();
             Calls.words(x, 0, "sell if " + conditions[i]);

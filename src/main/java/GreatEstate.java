@@ -34,8 +34,6 @@ public final class GreatEstate {
     private static final long MOST_COIN = 2000000000L;
     private static final int LOST = -1000000000;
 
-    private final byte[] tape = new byte[TAPE];
-    private int tapeLength;
     private final Reader reader;
     private final Estate now;
     private final Estate kept;
@@ -44,29 +42,29 @@ public final class GreatEstate {
 
     public GreatEstate() {
         Texts texts = new Texts();
-        reader = new Reader(tape, texts);
+        reader = new Reader(texts);
         now = new Estate(texts);
         kept = new Estate(texts);
         passing = new Year(now);
     }
 
     public int feed(int a, int b, int c, int d, int e) {
-        if (tapeLength + 20 > TAPE) {
+        if (reader.fed + 20 > TAPE) {
             return NONE;
         }
-        takeBytes(a);
-        takeBytes(b);
-        takeBytes(c);
-        takeBytes(d);
-        takeBytes(e);
-        return tapeLength;
+        reader.addBytes(a);
+        reader.addBytes(b);
+        reader.addBytes(c);
+        reader.addBytes(d);
+        reader.addBytes(e);
+        return reader.fed;
     }
 
     public boolean end(int n) {
-        if (n < 0 || n > tapeLength) {
+        if (n < 0 || n > reader.fed) {
             return false;
         }
-        tapeLength = n;
+        reader.fed = n;
         return true;
     }
 
@@ -117,12 +115,12 @@ public final class GreatEstate {
 
     public int let(int from, int to, int years, int coin, boolean forced)
             throws IndexOutOfBoundsException, IllegalArgumentException {
-        int length = useTape();
+        reader.useTape();
         needField(from);
         needField(to);
         needWithin(years, 0, 99);
         needWithin(coin, 0, 100000);
-        needText(reader.read(length, true, Texts.slotOfLease(now.holdings.size)));
+        needText(reader.read(true, Texts.slotOfLease(now.holdings.size)));
         boolean rightful = years <= now.yearsLet();
         if (!now.isFree(from, to) || !(rightful || forced)) {
             return NONE;
@@ -214,10 +212,10 @@ public final class GreatEstate {
     }
 
     public int words(int season) throws IllegalArgumentException, UnsupportedOperationException {
-        int length = useTape();
+        reader.useTape();
         needWithin(season, now.season, LAST_SEASON);
         int slot = Texts.slotOfAct(now.words.size);
-        needText(reader.read(length, false, slot));
+        needText(reader.read(false, slot));
         needRoom(now.words.size < ACTS);
         now.words.add(season);
         return now.texts.lines[slot];
@@ -428,19 +426,6 @@ public final class GreatEstate {
         }
     }
 
-    private void takeBytes(int four) {
-        for (int shift = 24; shift >= 0 && tapeLength < TAPE; shift -= 8) {
-            tape[tapeLength] = (byte) (four >> shift);
-            tapeLength++;
-        }
-    }
-
-    private int useTape() {
-        int length = tapeLength;
-        tapeLength = 0;
-        return length;
-    }
-
     private static void needIndex(int i, int size) {
         if (i < 0 || i >= size) {
             throw new IndexOutOfBoundsException("there is none such");
@@ -645,7 +630,7 @@ public final class GreatEstate {
         }
     }
 
-    /** Reads a text from the tape into a slot, token by token. */
+    /** Has the TAPE, and reads a text from it into a slot, token by token. */
     static final class Reader {
         private static final String DICTIONARY = "year wheat barley turnips grass age worn wet soil coin arrears fallow lime drain wood mine land years fell borrow sell part charge strike rent corn bar owe waste put game if of after and or not";
         private static final int END = 0;
@@ -655,8 +640,9 @@ public final class GreatEstate {
         private static final int DEEPEST = 6;
         private static final int MOST = 999999;
 
-        private final byte[] tape;
+        private final byte[] tape = new byte[TAPE];
         private final Texts texts;
+        int fed;
         int fault = NONE;
         private int length;
         private int at;
@@ -666,14 +652,25 @@ public final class GreatEstate {
         private int slot;
         private int codes;
 
-        Reader(byte[] tape, Texts texts) {
-            this.tape = tape;
+        Reader(Texts texts) {
             this.texts = texts;
         }
 
+        void addBytes(int four) {
+            for (int shift = 24; shift >= 0 && fed < TAPE; shift -= 8) {
+                tape[fed] = (byte) (four >> shift);
+                fed++;
+            }
+        }
+
+        /** The TAPE is empty then; what it had is the text to be read. */
+        void useTape() {
+            length = fed;
+            fed = 0;
+        }
+
         /** Whether the text is right; if not, fault is where the token begins that cannot stand there. */
-        boolean read(int bytes, boolean lease, int into) {
-            length = bytes;
+        boolean read(boolean lease, int into) {
             slot = into;
             at = 0;
             codes = slot * TAPE;
@@ -1512,11 +1509,8 @@ public final class GreatEstate {
         }
 
         int leastEnd(int coin, int charge, int set) {
-            if (troubles == 0) {
-                return endOf(coin, -charge, 0, set);
-            }
-            int least = Integer.MAX_VALUE;
-            for (int i = 0; i < troubles; i++) {
+            int least = troubles == 0 ? endOf(coin, -charge, 0, set) : endOf(coin, firsts[0] - charge, changes[0], set);
+            for (int i = 1; i < troubles; i++) {
                 least = Math.min(least, endOf(coin, firsts[i] - charge, changes[i], set));
             }
             return least;
