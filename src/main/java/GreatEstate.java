@@ -1092,11 +1092,17 @@ public final class GreatEstate {
         }
 
         int get(int what, int field) {
-            return cells[what * FIELDS + field];
+            return isCell(what, field) ? cells[what * FIELDS + field] : 0;
         }
 
         void set(int what, int field, int n) {
-            cells[what * FIELDS + field] = n;
+            if (isCell(what, field)) {
+                cells[what * FIELDS + field] = n;
+            }
+        }
+
+        private static boolean isCell(int what, int field) {
+            return what >= 0 && what < COLUMNS && field >= 0 && field < FIELDS;
         }
 
         boolean isSold(int field) {
@@ -1187,11 +1193,17 @@ public final class GreatEstate {
         }
 
         int get(int what, int holding) {
-            return cells[what * HOLDINGS + holding];
+            return isCell(what, holding) ? cells[what * HOLDINGS + holding] : 0;
         }
 
         void set(int what, int holding, int n) {
-            cells[what * HOLDINGS + holding] = n;
+            if (isCell(what, holding)) {
+                cells[what * HOLDINGS + holding] = n;
+            }
+        }
+
+        private static boolean isCell(int what, int holding) {
+            return what >= 0 && what < COLUMNS && holding >= 0 && holding < HOLDINGS;
         }
 
         void grow(int what, int holding, int n) {
@@ -1320,14 +1332,15 @@ public final class GreatEstate {
             return AT_FIRST;
         }
 
-        /** The prices of a year by all that was told till now; those of no crop and of fallow stay as they are. */
+        /** The prices of a year by all that was told till now; those of crops without one stay as they are. */
         void learnPrices(int year, int[] prices) {
-            for (int crop = 1; crop < FALLOW; crop++) {
+            for (int crop = 1; crop < FALLOW && crop < prices.length; crop++) {
                 prices[crop] = AT_FIRST;
             }
             for (int i = 0; i < size; i++) {
-                if (years[i] == year) {
-                    prices[crops[i]] = numbers[i];
+                int crop = crops[i];
+                if (years[i] == year && crop >= 0 && crop < prices.length) {
+                    prices[crop] = numbers[i];
                 }
             }
         }
@@ -1605,7 +1618,7 @@ public final class GreatEstate {
         final Plan plan = new Plan();
         final Rows rows = new Rows();
         int season;
-        final int[] prices = new int[CROPS + 1];
+        private final int[] prices = new int[CROPS + 1];
 
         Estate(Texts texts) {
             this.texts = texts;
@@ -1686,6 +1699,15 @@ public final class GreatEstate {
             }
             holdings.set(Holdings.SIZE, holding, 0);
             holdings.set(Holdings.OVER, holding, 1);
+        }
+
+        void learnPrices() {
+            market.learnPrices(season / 4, prices);
+        }
+
+        /** The price of this year as it was learnt; fallow and no crop have 0. */
+        int priceOf(int crop) {
+            return crop >= 0 && crop <= CROPS ? prices[crop] : 0;
         }
 
         private void learnFacts(int coin, int arrears) {
@@ -1776,7 +1798,7 @@ public final class GreatEstate {
                     sum += texts.number[line];
                 }
                 if (texts.verb[line] == Texts.CORN) {
-                    sum += (long) texts.number[line] * prices[texts.first[line]];
+                    sum += (long) texts.number[line] * priceOf(texts.first[line]);
                 }
             }
             return capped(sum);
@@ -1876,7 +1898,7 @@ public final class GreatEstate {
         }
 
         void pass() {
-            estate.market.learnPrices(estate.season / 4, estate.prices);
+            estate.learnPrices();
             switch (estate.season % 4) {
                 case 0:
                     spring();
@@ -1914,7 +1936,7 @@ public final class GreatEstate {
             int chosen = FALLOW;
             int most = NONE;
             for (int crop = 1; crop <= CROPS; crop++) {
-                int hope = estate.prices[crop] * land.growthOf(field, crop, 0);
+                int hope = estate.priceOf(crop) * land.growthOf(field, crop, 0);
                 if (hope > most && !isBarred(holding, crop, land.get(Land.CROP, field))) {
                     chosen = crop;
                     most = hope;
@@ -1947,7 +1969,7 @@ public final class GreatEstate {
             if (holding == NONE) {
                 return;
             }
-            int coins = land.get(Land.YIELD, field) * estate.prices[land.get(Land.CROP, field)];
+            int coins = land.get(Land.YIELD, field) * estate.priceOf(land.get(Land.CROP, field));
             ledger.addHarvest(coins);
             if (holdings.isLet(holding)) {
                 holdings.grow(Holdings.COIN, holding, coins);
@@ -1999,7 +2021,7 @@ public final class GreatEstate {
             int eaten = 0;
             for (int field = 0; field < FIELDS; field++) {
                 if (land.get(Land.HOLDER, field) == holding) {
-                    eaten += land.get(Land.ATE, field) * estate.prices[land.get(Land.ATE_CROP, field)];
+                    eaten += land.get(Land.ATE, field) * estate.priceOf(land.get(Land.ATE_CROP, field));
                 }
             }
             return eaten * texts.number[line] / 100;
