@@ -36,15 +36,12 @@ public final class GreatEstate {
 
     private final Reader reader;
     private final Estate now;
-    private final Estate kept;
-    private boolean hasImage;
     private final Year passing;
+    private Estate kept;
 
     public GreatEstate() {
-        Texts texts = new Texts();
-        reader = new Reader(texts);
-        now = new Estate(texts);
-        kept = new Estate(texts);
+        reader = new Reader();
+        now = new Estate();
         passing = new Year(now);
     }
 
@@ -120,7 +117,7 @@ public final class GreatEstate {
         needField(to);
         needWithin(years, 0, 99);
         needWithin(coin, 0, 100000);
-        needText(reader.read(true, Texts.slotOfLease(now.holdings.size)));
+        needText(reader.read(true));
         boolean rightful = years <= now.yearsLet();
         if (!now.isFree(from, to) || !(rightful || forced)) {
             return NONE;
@@ -128,7 +125,9 @@ public final class GreatEstate {
         if (!rightful) {
             now.noteWrong(WRONG_LET, 0);
         }
-        return now.openLease(from, to, years, coin);
+        int holding = now.openLease(from, to, years, coin);
+        now.holdings.setLease(holding, reader.newText());
+        return holding;
     }
 
     public int keep(int from, int to, int kind, int number, int other)
@@ -214,11 +213,11 @@ public final class GreatEstate {
     public int words(int season) throws IllegalArgumentException, UnsupportedOperationException {
         reader.useTape();
         needWithin(season, now.season, LAST_SEASON);
-        int slot = Texts.slotOfAct(now.words.size);
-        needText(reader.read(false, slot));
+        needText(reader.read(false));
         needRoom(now.words.size < ACTS);
-        now.words.add(season);
-        return now.texts.lines[slot];
+        Text text = reader.newText();
+        now.words.add(text, season);
+        return text.lines;
     }
 
     public int fault() {
@@ -232,15 +231,15 @@ public final class GreatEstate {
             case 0:
                 return now.yearsLet();
             case 1:
-                return now.lineThatLets(Texts.FELL, field) != NONE ? 1 : 0;
+                return now.lineThatLets(Text.FELL, field) != NONE ? 1 : 0;
             case 2:
                 return now.mostBorrowed();
             case 3:
-                return now.lineThatLets(Texts.SELL, field) != NONE ? 1 : 0;
+                return now.lineThatLets(Text.SELL, field) != NONE ? 1 : 0;
             case 4:
                 return now.chargesNow();
             default:
-                return now.partOf(Texts.LIME + what - 5);
+                return now.partOf(Text.LIME + what - 5);
         }
     }
 
@@ -249,22 +248,22 @@ public final class GreatEstate {
         needKnown(what >= 0 && what <= 4);
         switch (what) {
             case 0:
-                return Texts.told(now.lastLine(Texts.YEARS, 0));
+                return now.lastLine(Text.YEARS, 0);
             case 1:
-                return Texts.told(now.lineThatLets(Texts.FELL, field));
+                return now.lineThatLets(Text.FELL, field);
             case 2:
-                return Texts.told(now.lastLine(Texts.BORROW, 0));
+                return now.lastLine(Text.BORROW, 0);
             case 3:
-                return Texts.told(now.lineThatLets(Texts.SELL, field));
+                return now.lineThatLets(Text.SELL, field);
             default:
-                return Texts.told(now.firstCharge());
+                return now.firstCharge();
         }
     }
 
     public int cut(int field, boolean forced) throws IndexOutOfBoundsException, ClassCastException {
         needField(field);
         needKind(now.kindAt(field) == WOOD);
-        boolean rightful = now.lineThatLets(Texts.FELL, field) != NONE;
+        boolean rightful = now.lineThatLets(Text.FELL, field) != NONE;
         if (!rightful && !forced) {
             return NONE;
         }
@@ -272,7 +271,7 @@ public final class GreatEstate {
         if (!rightful) {
             now.noteWrong(WRONG_FELLED, coins);
         }
-        now.takeIn(Texts.WOOD_THING, coins);
+        now.takeIn(Text.WOOD_THING, coins);
         now.land.set(Land.AGE, field, 0);
         return coins;
     }
@@ -300,7 +299,7 @@ public final class GreatEstate {
 
     public boolean work(int field, boolean lime) throws IndexOutOfBoundsException {
         needField(field);
-        int thing = lime ? Texts.LIME : Texts.DRAIN;
+        int thing = lime ? Text.LIME : Text.DRAIN;
         if (now.land.isSold(field) || !now.payWork(thing, lime ? 8 : 30)) {
             return false;
         }
@@ -313,7 +312,7 @@ public final class GreatEstate {
         if (now.land.isSold(field) || now.land.get(Land.HOLDER, field) != NONE) {
             return NONE;
         }
-        boolean rightful = now.lineThatLets(Texts.SELL, field) != NONE;
+        boolean rightful = now.lineThatLets(Text.SELL, field) != NONE;
         if (!rightful && !forced) {
             return NONE;
         }
@@ -321,7 +320,7 @@ public final class GreatEstate {
         if (!rightful) {
             now.noteWrong(WRONG_SOLD, coins);
         }
-        now.takeIn(Texts.LAND_THING, coins);
+        now.takeIn(Text.LAND_THING, coins);
         now.land.set(Land.SOLD, field, 1);
         return coins;
     }
@@ -387,12 +386,14 @@ public final class GreatEstate {
     }
 
     public void image() {
+        if (kept == null) {
+            kept = new Estate();
+        }
         kept.copyFrom(now);
-        hasImage = true;
     }
 
     public boolean back() {
-        if (!hasImage) {
+        if (kept == null) {
             return false;
         }
         now.copyFrom(kept);
@@ -416,7 +417,7 @@ public final class GreatEstate {
             case 8:
                 return now.words.size;
             case 9:
-                return now.words.linesInForce(now.texts, now.season);
+                return now.words.linesInForce(now.season);
             case 14:
                 return now.land.soldFields();
             case 17:
@@ -475,11 +476,8 @@ public final class GreatEstate {
         return (int) Math.max(-MOST_COIN, Math.min(MOST_COIN, sum));
     }
 
-    /**
-     * All texts that were read, in slots: of HOLDING h slot h, of the estate's text t slot 24 + t, and a spare one.
-     * THE IMAGE shares them, since a slot that it uses is never written again: only one behind its counts is.
-     */
-    static final class Texts {
+    /** A text that was read: its lines, and behind them the codes of all their conditions. It never changes. */
+    static final class Text {
         // The numbers of the words of Reader.DICTIONARY.
         static final int YEAR = 0;
         static final int WHEAT = 1;
@@ -525,112 +523,107 @@ public final class GreatEstate {
         static final int AND = -16;
         static final int OR = -17;
 
-        private static final int SPARE = HOLDINGS + ACTS;
-        private static final int SLOTS = SPARE + 1;
-        private static final int STACK = 64;
+        // What stands of a line.
+        static final int VERB = 0;
+        static final int NUMBER = 1;
+        static final int FIRST = 2;
+        static final int SECOND = 3;
+        static final int CODES_FROM = 4;
+        static final int CODES_TO = 5;
+        static final int LINE_CELLS = 6;
 
-        final int[] lines = new int[SLOTS];
-        final int[] verb = new int[SLOTS * LINES];
-        final int[] number = new int[SLOTS * LINES];
-        final int[] first = new int[SLOTS * LINES];
-        final int[] second = new int[SLOTS * LINES];
-        final int[] codeFrom = new int[SLOTS * LINES];
-        final int[] codeTo = new int[SLOTS * LINES];
-        final int[] code = new int[SLOTS * TAPE];
-        final long[] fact = new long[ARREARS + 1];
-        private final long[] stack = new long[STACK];
+        // Facts, and behind them the room in which a condition is reckoned: 6 deep it needs less than 20.
+        static final int FACTS = ARREARS + 1;
+        static final int FACTS_AND_ROOM = FACTS + 40;
 
-        static int slotOfLease(int holding) {
-            return holding < HOLDINGS ? holding : SPARE;
+        final int lines;
+        private final int[] cells;
+
+        /** A text without lines. */
+        Text() {
+            lines = 0;
+            cells = new int[0];
         }
 
-        static int slotOfAct(int text) {
-            return text < ACTS ? HOLDINGS + text : SPARE;
+        Text(int lines, int[] cells) {
+            this.lines = lines;
+            this.cells = cells;
         }
 
-        /** A line of the estate's words as why() tells it. */
-        static int told(int line) {
-            return line == NONE ? NONE : line - HOLDINGS * LINES;
-        }
-
-        int numberOf(int line) {
-            return line == NONE ? 0 : number[line];
+        int get(int what, int line) {
+            return line >= 0 && line < lines && what >= 0 && what < LINE_CELLS ? cells[LINE_CELLS * line + what] : 0;
         }
 
         /** Whether the condition of a line holds by the facts; a line without one always does. */
-        boolean holds(int line) {
-            int depth = 0;
-            for (int i = codeFrom[line]; i < codeTo[line]; i++) {
-                depth = step(code[i], depth);
+        boolean holds(int line, long[] facts) {
+            int to = LINE_CELLS * lines + get(CODES_TO, line);
+            int top = FACTS;
+            for (int i = LINE_CELLS * lines + get(CODES_FROM, line); i < to && i < cells.length; i++) {
+                top = step(cells[i], top, facts);
             }
-            return depth < 1 || stack[0] != 0;
+            return top <= FACTS || facts[FACTS] != 0;
         }
 
-        private int step(int op, int depth) {
+        private static int step(int op, int top, long[] facts) {
             if (op > ADD) {
-                if (depth >= STACK) {
-                    return depth;
+                if (top < FACTS || top >= facts.length) {
+                    return top;
                 }
-                stack[depth] = op >= 0 ? op : fact[-1 - op];
-                return depth + 1;
+                facts[top] = op >= 0 ? op : facts[-1 - op];
+                return top + 1;
             }
+            if (top < FACTS + (op == NOT ? 1 : 2) || top > facts.length) {
+                return top;
+            }
+            long last = facts[top - 1];
             if (op == NOT) {
-                if (depth > 0) {
-                    stack[depth - 1] = 1 - stack[depth - 1];
-                }
-                return depth;
+                facts[top - 1] = 1 - last;
+                return top;
             }
-            if (depth < 2) {
-                return depth;
-            }
-            long a = stack[depth - 2];
-            long b = stack[depth - 1];
+            long ahead = facts[top - 2];
             if (op == ADD) {
-                stack[depth - 2] = a + b;
+                facts[top - 2] = ahead + last;
             } else if (op == AND) {
-                stack[depth - 2] = a & b;
+                facts[top - 2] = ahead & last;
             } else if (op == OR) {
-                stack[depth - 2] = a | b;
+                facts[top - 2] = ahead | last;
             } else {
-                stack[depth - 2] = (op == LESS ? a < b : a > b) ? 1 : 0;
+                facts[top - 2] = (op == LESS ? ahead < last : ahead > last) ? 1 : 0;
             }
-            return depth - 1;
+            return top - 1;
         }
 
-        /** The last line of a verb (and of a thing, 0 where the verb has none) in a slot. */
-        int lastIn(int slot, int wanted, int thing) {
-            for (int i = lines[slot] - 1; i >= 0; i--) {
-                int line = slot * LINES + i;
-                if (verb[line] == wanted && first[line] == thing) {
+        /** The last line of a verb (and of a thing, 0 where the verb has none); NONE. */
+        int lastOf(int verb, int thing) {
+            for (int line = lines - 1; line >= 0; line--) {
+                if (get(VERB, line) == verb && get(FIRST, line) == thing) {
                     return line;
                 }
             }
             return NONE;
         }
 
-        int firstHolding(int slot, int wanted) {
-            for (int i = 0; i < lines[slot]; i++) {
-                int line = slot * LINES + i;
-                if (verb[line] == wanted && holds(line)) {
+        int firstHolding(int verb, long[] facts) {
+            for (int line = 0; line < lines; line++) {
+                if (get(VERB, line) == verb && holds(line, facts)) {
                     return line;
                 }
             }
             return NONE;
         }
 
-        int sumHolding(int slot, int wanted) {
+        int sumHolding(int verb, long[] facts) {
             int sum = 0;
-            for (int i = 0; i < lines[slot]; i++) {
-                int line = slot * LINES + i;
-                if (verb[line] == wanted && holds(line)) {
-                    sum += number[line];
+            for (int line = 0; line < lines; line++) {
+                if (get(VERB, line) == verb && holds(line, facts)) {
+                    sum += get(NUMBER, line);
                 }
             }
             return sum;
         }
     }
 
-    /** Has the TAPE, and reads a text from it into a slot, token by token. */
+    /** Has the TAPE, and reads a text from it into a draft, token by token. */
     static final class Reader {
         private static final String DICTIONARY = "year wheat barley turnips grass age worn wet soil coin arrears fallow lime drain wood mine land years fell borrow sell part charge strike rent corn bar owe waste put game if of after and or not";
         private static final int END = 0;
@@ -639,9 +632,9 @@ public final class GreatEstate {
         private static final int SIGN = 3;
         private static final int DEEPEST = 6;
         private static final int MOST = 999999;
+        private static final int DRAFT_CODES = Text.LINE_CELLS * LINES;
 
         private final byte[] tape = new byte[TAPE];
-        private final Texts texts;
         int fed;
         int fault = NONE;
         private int length;
@@ -649,12 +642,10 @@ public final class GreatEstate {
         private int start;
         private int kind;
         private int value;
-        private int slot;
+        private final int[] draft = new int[DRAFT_CODES + TAPE];
+        private int lines;
         private int codes;
-
-        Reader(Texts texts) {
-            this.texts = texts;
-        }
+        private int verb;
 
         void addBytes(int four) {
             for (int shift = 24; shift >= 0 && fed < TAPE; shift -= 8) {
@@ -670,15 +661,26 @@ public final class GreatEstate {
         }
 
         /** Whether the text is right; if not, fault is where the token begins that cannot stand there. */
-        boolean read(boolean lease, int into) {
-            slot = into;
+        boolean read(boolean lease) {
             at = 0;
-            codes = slot * TAPE;
-            texts.lines[slot] = 0;
+            lines = 0;
+            codes = 0;
             next();
             boolean right = takeLines(lease);
             fault = right ? NONE : start;
             return right;
+        }
+
+        /** The text that was read last, if it was right. The draft has room for 16 lines ahead of its codes. */
+        Text newText() {
+            int size = Text.LINE_CELLS * lines;
+            if (size <= 0 || size > DRAFT_CODES || codes < 0 || codes > TAPE) {
+                return new Text();
+            }
+            int[] cells = new int[size + codes];
+            System.arraycopy(draft, 0, cells, 0, size);
+            System.arraycopy(draft, DRAFT_CODES, cells, size, codes);
+            return new Text(lines, cells);
         }
 
         private boolean takeLines(boolean lease) {
@@ -686,11 +688,11 @@ public final class GreatEstate {
                 return true;
             }
             for (int i = 0; i < LINES; i++) {
-                int line = slot * LINES + i;
-                if (!takeVerb(lease, line) || !(lease ? takeRestOfLease(line) : takeRestOfAct(line))) {
+                if (!takeVerb(lease) || !(lease ? takeRestOfLease() : takeRestOfAct())) {
                     return false;
                 }
-                texts.lines[slot] = i + 1;
+                write(Text.CODES_TO, codes);
+                lines = i + 1;
                 if (kind == END) {
                     return true;
                 }
@@ -701,82 +703,94 @@ public final class GreatEstate {
             return false;
         }
 
-        private boolean takeVerb(boolean lease, int line) {
-            int least = lease ? Texts.RENT : Texts.YEARS;
-            int most = lease ? Texts.GAME : Texts.STRIKE;
+        /** Writes down something of the line that is being read: the one behind all that are read. */
+        private void write(int what, int n) {
+            if (lines < LINES) {
+                draft[Text.LINE_CELLS * lines + what] = n;
+            }
+        }
+
+        /** No text has more codes than bytes, so that the draft has room for all. */
+        private void emit(int op) {
+            if (codes < TAPE) {
+                draft[DRAFT_CODES + codes] = op;
+                codes++;
+            }
+        }
+
+        private boolean takeVerb(boolean lease) {
+            int least = lease ? Text.RENT : Text.YEARS;
+            int most = lease ? Text.GAME : Text.STRIKE;
             if (kind != WORD || value < least || value > most) {
                 return false;
             }
-            texts.verb[line] = value;
-            texts.number[line] = 0;
-            texts.first[line] = 0;
-            texts.second[line] = 0;
-            texts.codeFrom[line] = codes;
-            texts.codeTo[line] = codes;
+            write(Text.VERB, value);
+            write(Text.NUMBER, 0);
+            write(Text.FIRST, 0);
+            write(Text.SECOND, 0);
+            write(Text.CODES_FROM, codes);
+            verb = value;
             next();
             return true;
         }
 
-        private boolean takeRestOfLease(int line) {
-            switch (texts.verb[line]) {
-                case Texts.CORN:
-                    return takeNumber(line, MOST) && takeWord(Texts.OF) && takeCrop(texts.first, line);
-                case Texts.BAR:
-                    return takeCrop(texts.first, line) && takeWord(Texts.AFTER) && takeCrop(texts.second, line);
-                case Texts.OWE:
-                    return takeOneOf(Texts.LIME, Texts.DRAIN, line) && takeNumber(line, MOST);
-                case Texts.PUT:
-                    return takeNumber(line, 100) && isWord(Texts.IF) && takeIf(line);
-                case Texts.GAME:
-                    return takeNumber(line, 100);
+        private boolean takeRestOfLease() {
+            switch (verb) {
+                case Text.CORN:
+                    return takeNumber(MOST) && takeWord(Text.OF) && takeCrop(Text.FIRST);
+                case Text.BAR:
+                    return takeCrop(Text.FIRST) && takeWord(Text.AFTER) && takeCrop(Text.SECOND);
+                case Text.OWE:
+                    return takeOneOf(Text.LIME, Text.DRAIN) && takeNumber(MOST);
+                case Text.PUT:
+                    return takeNumber(100) && isWord(Text.IF) && takeIf();
+                case Text.GAME:
+                    return takeNumber(100);
                 default:
-                    return takeNumber(line, MOST) && takeIf(line);
+                    return takeNumber(MOST) && takeIf();
             }
         }
 
-        private boolean takeRestOfAct(int line) {
-            switch (texts.verb[line]) {
-                case Texts.FELL:
-                case Texts.SELL:
-                    return takeIf(line);
-                case Texts.PART:
-                    return takeOneOf(Texts.LIME, Texts.LAND_THING, line) && takeNumber(line, 100);
-                case Texts.CHARGE:
-                    return takeNumber(line, MOST) && takeIf(line);
-                case Texts.STRIKE:
-                    return takeOneOf(Texts.YEARS, Texts.CHARGE, line);
+        private boolean takeRestOfAct() {
+            switch (verb) {
+                case Text.FELL:
+                case Text.SELL:
+                    return takeIf();
+                case Text.PART:
+                    return takeOneOf(Text.LIME, Text.LAND_THING) && takeNumber(100);
+                case Text.CHARGE:
+                    return takeNumber(MOST) && takeIf();
+                case Text.STRIKE:
+                    return takeOneOf(Text.YEARS, Text.CHARGE);
                 default:
-                    return takeNumber(line, MOST);
+                    return takeNumber(MOST);
             }
         }
 
-        private boolean takeNumber(int line, int most) {
+        private boolean takeNumber(int most) {
             if (kind != NUMBER || value > most) {
                 return false;
             }
-            texts.number[line] = value;
+            write(Text.NUMBER, value);
             next();
             return true;
         }
 
-        private boolean takeCrop(int[] into, int line) {
-            if (kind != WORD) {
+        private boolean takeCrop(int what) {
+            boolean fallow = isWord(Text.FALLOW_WORD);
+            if (!fallow && (kind != WORD || value < Text.WHEAT || value > Text.GRASS)) {
                 return false;
             }
-            boolean fallow = value == Texts.FALLOW_WORD;
-            if (!fallow && (value < Texts.WHEAT || value > Texts.GRASS)) {
-                return false;
-            }
-            into[line] = fallow ? FALLOW : value;
+            write(what, fallow ? FALLOW : value);
             next();
             return true;
         }
 
-        private boolean takeOneOf(int least, int most, int line) {
+        private boolean takeOneOf(int least, int most) {
             if (kind != WORD || value < least || value > most) {
                 return false;
             }
-            texts.first[line] = value;
+            write(Text.FIRST, value);
             next();
             return true;
         }
@@ -805,26 +819,24 @@ public final class GreatEstate {
             return kind == SIGN && value == sign;
         }
 
-        private boolean takeIf(int line) {
-            if (!isWord(Texts.IF)) {
+        private boolean takeIf() {
+            if (!isWord(Text.IF)) {
                 return true;
             }
             next();
-            boolean right = takeCondition(0);
-            texts.codeTo[line] = codes;
-            return right;
+            return takeCondition(0);
         }
 
         private boolean takeCondition(int deep) {
             if (!takeAll(deep)) {
                 return false;
             }
-            for (int i = 0; i < TAPE && isWord(Texts.OR_WORD); i++) {
+            for (int i = 0; i < TAPE && isWord(Text.OR_WORD); i++) {
                 next();
                 if (!takeAll(deep)) {
                     return false;
                 }
-                emit(Texts.OR);
+                emit(Text.OR);
             }
             return true;
         }
@@ -833,18 +845,18 @@ public final class GreatEstate {
             if (!takeAtom(deep)) {
                 return false;
             }
-            for (int i = 0; i < TAPE && isWord(Texts.AND_WORD); i++) {
+            for (int i = 0; i < TAPE && isWord(Text.AND_WORD); i++) {
                 next();
                 if (!takeAtom(deep)) {
                     return false;
                 }
-                emit(Texts.AND);
+                emit(Text.AND);
             }
             return true;
         }
 
         private boolean takeAtom(int deep) {
-            boolean not = isWord(Texts.NOT_WORD);
+            boolean not = isWord(Text.NOT_WORD);
             if (not || isSign('(')) {
                 if (deep >= DEEPEST) {
                     return false;
@@ -852,7 +864,7 @@ public final class GreatEstate {
                 next();
                 boolean right = not ? takeAtom(deep + 1) : takeCondition(deep + 1) && takeSign(')');
                 if (not) {
-                    emit(Texts.NOT);
+                    emit(Text.NOT);
                 }
                 return right;
             }
@@ -861,20 +873,20 @@ public final class GreatEstate {
             }
             boolean less = isSign('<');
             boolean right = (takeSign('<') || takeSign('>')) && takeSum();
-            emit(less ? Texts.LESS : Texts.MORE);
+            emit(less ? Text.LESS : Text.MORE);
             return right;
         }
 
         private boolean takeSum() {
             for (int parts = 0; parts < TAPE; parts++) {
                 boolean number = kind == NUMBER && value <= MOST;
-                boolean fact = kind == WORD && value >= Texts.YEAR && value <= Texts.ARREARS;
+                boolean fact = kind == WORD && value >= Text.YEAR && value <= Text.ARREARS;
                 if (!number && !fact) {
                     return false;
                 }
                 emit(number ? value : -1 - value);
                 if (parts > 0) {
-                    emit(Texts.ADD);
+                    emit(Text.ADD);
                 }
                 next();
                 if (!isSign('+')) {
@@ -883,14 +895,6 @@ public final class GreatEstate {
                 next();
             }
             return false;
-        }
-
-        /** No text has more codes than bytes, so that the slot has room for all. */
-        private void emit(int op) {
-            if (codes < (slot + 1) * TAPE) {
-                texts.code[codes] = op;
-                codes++;
-            }
         }
 
         private void next() {
@@ -953,104 +957,124 @@ public final class GreatEstate {
         }
     }
 
-    /** Which texts are the estate's words, and in which order they count. */
+    /** The estate's words, and in which order they count. A line is told as 16 times its text and its own number. */
     static final class Words {
         int size;
+        private final Text[] texts = new Text[ACTS];
         private final int[] since = new int[ACTS];
         private final int[] order = new int[ACTS];
 
-        void add(int season) {
+        void add(Text text, int season) {
             if (size >= ACTS) {
                 return;
             }
             int place = size;
-            while (place > 0 && since[order[place - 1]] > season) {
+            while (place > 0 && since[textAt(place - 1)] > season) {
                 order[place] = order[place - 1];
                 place--;
             }
             order[place] = size;
             since[size] = season;
+            texts[size] = text;
             size++;
         }
 
         void copyFrom(Words other) {
             size = other.size;
-            System.arraycopy(other.since, 0, since, 0, ACTS);
-            System.arraycopy(other.order, 0, order, 0, ACTS);
+            for (int i = 0; i < ACTS; i++) {
+                texts[i] = other.texts[i];
+                since[i] = other.since[i];
+                order[i] = other.order[i];
+            }
         }
 
+        /** The number of the text at a place. */
+        private int textAt(int place) {
+            return place >= 0 && place < size ? order[place] : 0;
+        }
+
+        /** How many texts are in force: so many of the first places. */
         private int inForce(int season) {
             int n = 0;
-            for (int place = 0; place < size; place++) {
-                if (since[order[place]] <= season) {
+            for (int i = 0; i < size; i++) {
+                if (since[i] <= season) {
                     n++;
                 }
             }
             return n;
         }
 
-        private int slotAt(int place) {
-            return HOLDINGS + order[place];
-        }
-
         /** The place of the last text in force that strikes a verb: lines of it ahead of that place are taken away. */
-        private int lastStrike(Texts texts, int inForce, int verb) {
+        private int lastStrike(int inForce, int verb) {
             for (int place = inForce - 1; place > 0; place--) {
-                if (texts.lastIn(slotAt(place), Texts.STRIKE, verb) != NONE) {
+                Text text = texts[textAt(place)];
+                if (text != null && text.lastOf(Text.STRIKE, verb) != NONE) {
                     return place;
                 }
             }
             return 0;
         }
 
-        int lastLine(Texts texts, int season, int verb, int thing) {
+        int lastLine(int season, int verb, int thing) {
             for (int place = inForce(season) - 1; place >= 0; place--) {
-                int line = texts.lastIn(slotAt(place), verb, thing);
+                Text text = texts[textAt(place)];
+                int line = text == null ? NONE : text.lastOf(verb, thing);
                 if (line != NONE) {
-                    return line;
+                    return LINES * textAt(place) + line;
                 }
-                if (texts.lastIn(slotAt(place), Texts.STRIKE, verb) != NONE) {
+                if (text != null && text.lastOf(Text.STRIKE, verb) != NONE) {
                     return NONE;
                 }
             }
             return NONE;
         }
 
-        int firstHolding(Texts texts, int season, int verb) {
+        /** The number that stands in a line; 0 of NONE. */
+        int numberIn(int line) {
+            if (line < 0 || line >= LINES * size) {
+                return 0;
+            }
+            Text text = texts[line / LINES];
+            return text == null ? 0 : text.get(Text.NUMBER, line % LINES);
+        }
+
+        int firstHolding(int season, int verb, long[] facts) {
             int inForce = inForce(season);
-            for (int place = lastStrike(texts, inForce, verb); place < inForce; place++) {
-                int line = texts.firstHolding(slotAt(place), verb);
+            for (int place = lastStrike(inForce, verb); place < inForce; place++) {
+                Text text = texts[textAt(place)];
+                int line = text == null ? NONE : text.firstHolding(verb, facts);
                 if (line != NONE) {
-                    return line;
+                    return LINES * textAt(place) + line;
                 }
             }
             return NONE;
         }
 
-        int sumHolding(Texts texts, int season, int verb) {
+        int sumHolding(int season, int verb, long[] facts) {
             int inForce = inForce(season);
             int sum = 0;
-            for (int place = lastStrike(texts, inForce, verb); place < inForce; place++) {
-                sum += texts.sumHolding(slotAt(place), verb);
+            for (int place = lastStrike(inForce, verb); place < inForce; place++) {
+                Text text = texts[textAt(place)];
+                sum += text == null ? 0 : text.sumHolding(verb, facts);
             }
             return sum;
         }
 
-        int linesInForce(Texts texts, int season) {
+        int linesInForce(int season) {
             int inForce = inForce(season);
             int n = 0;
-            for (int verb = Texts.YEARS; verb <= Texts.STRIKE; verb++) {
-                for (int place = lastStrike(texts, inForce, verb); place < inForce; place++) {
-                    n += linesOf(texts, slotAt(place), verb);
+            for (int verb = Text.YEARS; verb <= Text.STRIKE; verb++) {
+                for (int place = lastStrike(inForce, verb); place < inForce; place++) {
+                    n += linesOf(texts[textAt(place)], verb);
                 }
             }
             return n;
         }
 
-        private static int linesOf(Texts texts, int slot, int verb) {
+        private static int linesOf(Text text, int verb) {
             int n = 0;
-            for (int i = 0; i < texts.lines[slot]; i++) {
-                if (texts.verb[slot * LINES + i] == verb) {
+            for (int line = 0; text != null && line < text.lines; line++) {
+                if (text.get(Text.VERB, line) == verb) {
                     n++;
                 }
             }
@@ -1186,10 +1210,26 @@ public final class GreatEstate {
 
         int size;
         private final int[] cells = new int[COLUMNS * HOLDINGS];
+        private final Text[] leases = new Text[HOLDINGS];
+        private final Text noLease = new Text();
 
         void copyFrom(Holdings other) {
             size = other.size;
             System.arraycopy(other.cells, 0, cells, 0, COLUMNS * HOLDINGS);
+            for (int holding = 0; holding < HOLDINGS; holding++) {
+                leases[holding] = other.leases[holding];
+            }
+        }
+
+        void setLease(int holding, Text lease) {
+            if (holding >= 0 && holding < HOLDINGS) {
+                leases[holding] = lease;
+            }
+        }
+
+        Text leaseOf(int holding) {
+            Text lease = holding >= 0 && holding < HOLDINGS ? leases[holding] : null;
+            return lease == null ? noLease : lease;
         }
 
         int get(int what, int holding) {
@@ -1609,7 +1649,6 @@ public final class GreatEstate {
 
     /** All that an image keeps, and what is reckoned from more than one part of it. */
     static final class Estate {
-        final Texts texts;
         final Words words = new Words();
         final Land land = new Land();
         final Holdings holdings = new Holdings();
@@ -1619,10 +1658,7 @@ public final class GreatEstate {
         final Rows rows = new Rows();
         int season;
         private final int[] prices = new int[CROPS + 1];
-
-        Estate(Texts texts) {
-            this.texts = texts;
-        }
+        final long[] facts = new long[Text.FACTS_AND_ROOM];
 
         void copyFrom(Estate other) {
             words.copyFrom(other.words);
@@ -1712,15 +1748,15 @@ public final class GreatEstate {
 
         private void learnFacts(int coin, int arrears) {
             market.learnPrices(season / 4, prices);
-            texts.fact[Texts.YEAR] = season / 4;
+            facts[Text.YEAR] = season / 4;
             for (int crop = 1; crop < FALLOW; crop++) {
-                texts.fact[crop] = prices[crop];
+                facts[crop] = prices[crop];
             }
-            for (int fact = Texts.AGE; fact <= Texts.SOIL; fact++) {
-                texts.fact[fact] = 0;
+            for (int fact = Text.AGE; fact <= Text.SOIL; fact++) {
+                facts[fact] = 0;
             }
-            texts.fact[Texts.COIN] = coin;
-            texts.fact[Texts.ARREARS] = arrears;
+            facts[Text.COIN] = coin;
+            facts[Text.ARREARS] = arrears;
         }
 
         private void learnFactsOfEstate() {
@@ -1732,48 +1768,48 @@ public final class GreatEstate {
         }
 
         private void learnFactsOfField(int field) {
-            texts.fact[Texts.AGE] = land.get(Land.AGE, field);
-            texts.fact[Texts.WORN] = land.get(Land.WORN, field);
-            texts.fact[Texts.WET] = land.get(Land.WET, field);
-            texts.fact[Texts.SOIL] = land.get(Land.SOIL, field);
+            facts[Text.AGE] = land.get(Land.AGE, field);
+            facts[Text.WORN] = land.get(Land.WORN, field);
+            facts[Text.WET] = land.get(Land.WET, field);
+            facts[Text.SOIL] = land.get(Land.SOIL, field);
         }
 
         int lastLine(int verb, int thing) {
-            return words.lastLine(texts, season, verb, thing);
+            return words.lastLine(season, verb, thing);
         }
 
         int yearsLet() {
-            return texts.numberOf(lastLine(Texts.YEARS, 0));
+            return words.numberIn(lastLine(Text.YEARS, 0));
         }
 
         int mostBorrowed() {
-            return texts.numberOf(lastLine(Texts.BORROW, 0));
+            return words.numberIn(lastLine(Text.BORROW, 0));
         }
 
         int partOf(int thing) {
-            return texts.numberOf(words.lastLine(texts, season, Texts.PART, thing));
+            return words.numberIn(words.lastLine(season, Text.PART, thing));
         }
 
         /** The first fell or sell line in force that holds for a field; NONE. */
         int lineThatLets(int verb, int field) {
             learnFactsOfEstate();
             learnFactsOfField(field);
-            return words.firstHolding(texts, season, verb);
+            return words.firstHolding(season, verb, facts);
         }
 
         int firstCharge() {
             learnFactsOfEstate();
-            return words.firstHolding(texts, season, Texts.CHARGE);
+            return words.firstHolding(season, Text.CHARGE, facts);
         }
 
         int chargesNow() {
             learnFactsOfEstate();
-            return words.sumHolding(texts, season, Texts.CHARGE);
+            return words.sumHolding(season, Text.CHARGE, facts);
         }
 
         /** Coins that come of a thing: its part is capital, the rest income. */
         void takeIn(int thing, int coins) {
-            long part = (long) coins * partOf(thing) / 100;
+            long part = (long) coins * words.numberIn(words.lastLine(season, Text.PART, thing)) / 100;
             ledger.addCapital(part);
             ledger.addIncome(coins - part);
         }
@@ -1791,14 +1827,11 @@ public final class GreatEstate {
 
         int rentOf(int holding) {
             learnFactsOfTenant(holding);
-            long sum = 0;
-            for (int i = 0; i < texts.lines[holding]; i++) {
-                int line = holding * LINES + i;
-                if (texts.verb[line] == Texts.RENT && texts.holds(line)) {
-                    sum += texts.number[line];
-                }
-                if (texts.verb[line] == Texts.CORN) {
-                    sum += (long) texts.number[line] * priceOf(texts.first[line]);
+            Text lease = holdings.leaseOf(holding);
+            long sum = lease.sumHolding(Text.RENT, facts);
+            for (int line = 0; line < lease.lines; line++) {
+                if (lease.get(Text.VERB, line) == Text.CORN) {
+                    sum += (long) lease.get(Text.NUMBER, line) * priceOf(lease.get(Text.FIRST, line));
                 }
             }
             return capped(sum);
@@ -1806,26 +1839,24 @@ public final class GreatEstate {
 
         int owedTo(int holding) {
             learnFactsOfTenant(holding);
+            Text lease = holdings.leaseOf(holding);
             long sum = 0;
             for (int field = 0; field < FIELDS; field++) {
                 if (land.get(Land.HOLDER, field) == holding) {
                     learnFactsOfField(field);
-                    sum += owedFor(holding, field);
+                    sum += leftOn(field, lease) - lease.sumHolding(Text.WASTE, facts);
                 }
             }
             return Math.max(0, capped(sum));
         }
 
-        private long owedFor(int holding, int field) {
+        /** What a lease owes for the years that are left of things on a field. */
+        private long leftOn(int field, Text lease) {
             long sum = 0;
-            for (int i = 0; i < texts.lines[holding]; i++) {
-                int line = holding * LINES + i;
-                if (texts.verb[line] == Texts.OWE) {
-                    int thing = texts.first[line] == Texts.LIME ? Land.LIME : Land.DRAIN;
-                    sum += (long) texts.number[line] * land.get(thing, field);
-                }
-                if (texts.verb[line] == Texts.WASTE && texts.holds(line)) {
-                    sum -= texts.number[line];
+            for (int line = 0; line < lease.lines; line++) {
+                if (lease.get(Text.VERB, line) == Text.OWE) {
+                    int thing = lease.get(Text.FIRST, line) == Text.LIME ? Land.LIME : Land.DRAIN;
+                    sum += (long) lease.get(Text.NUMBER, line) * land.get(thing, field);
                 }
             }
             return sum;
@@ -1834,7 +1865,7 @@ public final class GreatEstate {
         int bestSale(int from, int n, int coin) {
             int eligible = 0;
             for (int i = 0; i < n; i++) {
-                boolean may = !land.isSold(from + i) && lineThatLets(Texts.SELL, from + i) != NONE;
+                boolean may = !land.isSold(from + i) && lineThatLets(Text.SELL, from + i) != NONE;
                 eligible |= may ? 1 << i : 0;
             }
             int best = NONE;
@@ -1887,14 +1918,12 @@ public final class GreatEstate {
         private final Land land;
         private final Holdings holdings;
         private final Ledger ledger;
-        private final Texts texts;
 
         Year(Estate estate) {
             this.estate = estate;
             land = estate.land;
             holdings = estate.holdings;
             ledger = estate.ledger;
-            texts = estate.texts;
         }
 
         void pass() {
@@ -1925,19 +1954,19 @@ public final class GreatEstate {
             for (int field = 0; field < FIELDS; field++) {
                 int kind = estate.kindAt(field);
                 if (kind == FARM || kind == YEARLY) {
-                    land.set(Land.CROP, field, chosenCrop(land.get(Land.HOLDER, field), field));
+                    land.set(Land.CROP, field, chosenCrop(holdings.leaseOf(land.get(Land.HOLDER, field)), field));
                 } else if (!Holdings.isHand(kind)) {
                     land.set(Land.CROP, field, 0);
                 }
             }
         }
 
-        private int chosenCrop(int holding, int field) {
+        private int chosenCrop(Text lease, int field) {
             int chosen = FALLOW;
             int most = NONE;
             for (int crop = 1; crop <= CROPS; crop++) {
                 int hope = estate.priceOf(crop) * land.growthOf(field, crop, 0);
-                if (hope > most && !isBarred(holding, crop, land.get(Land.CROP, field))) {
+                if (hope > most && !isBarred(lease, crop, land.get(Land.CROP, field))) {
                     chosen = crop;
                     most = hope;
                 }
@@ -1945,10 +1974,10 @@ public final class GreatEstate {
             return chosen;
         }
 
-        private boolean isBarred(int holding, int crop, int after) {
-            for (int i = 0; i < texts.lines[holding]; i++) {
-                int line = holding * LINES + i;
-                if (texts.verb[line] == Texts.BAR && texts.first[line] == crop && texts.second[line] == after) {
+        private static boolean isBarred(Text lease, int crop, int after) {
+            for (int line = 0; line < lease.lines; line++) {
+                boolean bar = lease.get(Text.VERB, line) == Text.BAR;
+                if (bar && lease.get(Text.FIRST, line) == crop && lease.get(Text.SECOND, line) == after) {
                     return true;
                 }
             }
@@ -2014,27 +2043,25 @@ public final class GreatEstate {
         }
 
         private int harmOfGame(int holding) {
-            int line = texts.lastIn(holding, Texts.GAME, 0);
-            if (line == NONE) {
-                return 0;
-            }
+            Text lease = holdings.leaseOf(holding);
+            int hundredths = lease.get(Text.NUMBER, lease.lastOf(Text.GAME, 0));
             int eaten = 0;
             for (int field = 0; field < FIELDS; field++) {
                 if (land.get(Land.HOLDER, field) == holding) {
                     eaten += land.get(Land.ATE, field) * estate.priceOf(land.get(Land.ATE_CROP, field));
                 }
             }
-            return eaten * texts.number[line] / 100;
+            return eaten * hundredths / 100;
         }
 
         /** The greatest number of the put lines that hold; NONE if none does. */
         private int hundredthsPut(int holding) {
             estate.learnFactsOfTenant(holding);
+            Text lease = holdings.leaseOf(holding);
             int most = NONE;
-            for (int i = 0; i < texts.lines[holding]; i++) {
-                int line = holding * LINES + i;
-                if (texts.verb[line] == Texts.PUT && texts.holds(line)) {
-                    most = Math.max(most, texts.number[line]);
+            for (int line = 0; line < lease.lines; line++) {
+                if (lease.get(Text.VERB, line) == Text.PUT && lease.holds(line, estate.facts)) {
+                    most = Math.max(most, lease.get(Text.NUMBER, line));
                 }
             }
             return most;
@@ -2094,7 +2121,7 @@ public final class GreatEstate {
             int before = holdings.get(Holdings.TONS, holding) / 100;
             holdings.grow(Holdings.TONS, holding, tons);
             holdings.grow(Holdings.PAID, holding, coins);
-            estate.takeIn(Texts.MINE_THING, coins);
+            estate.takeIn(Text.MINE_THING, coins);
             int fields = holdings.get(Holdings.SIZE, holding);
             for (int turn = before; turn < holdings.get(Holdings.TONS, holding) / 100 && fields > 0; turn++) {
                 sink(holding, turn % fields);
