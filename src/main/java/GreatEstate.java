@@ -2067,22 +2067,6 @@ public final class GreatEstate {
             return most;
         }
 
-        private void digMines() {
-            for (int holding = 0; holding < holdings.size; holding++) {
-                if (holdings.get(Holdings.KIND, holding) == MINE && !holdings.isOver(holding)) {
-                    dig(holding);
-                }
-            }
-        }
-
-        private void endLeases() {
-            for (int holding = 0; holding < holdings.size; holding++) {
-                if (isAtItsEnd(holding)) {
-                    goOut(holding);
-                }
-            }
-        }
-
         private void breedGame() {
             for (int field = 0; field < FIELDS; field++) {
                 int game = land.get(Land.GAME, field);
@@ -2115,6 +2099,14 @@ public final class GreatEstate {
             }
         }
 
+        private void digMines() {
+            for (int holding = 0; holding < holdings.size; holding++) {
+                if (holdings.get(Holdings.KIND, holding) == MINE && !holdings.isOver(holding)) {
+                    dig(holding);
+                }
+            }
+        }
+
         private void dig(int holding) {
             int tons = holdings.get(Holdings.NUMBER, holding);
             int coins = tons * holdings.get(Holdings.ROYALTY, holding);
@@ -2136,6 +2128,14 @@ public final class GreatEstate {
                         land.set(Land.SUNK, field, Math.min(9, land.get(Land.SUNK, field) + 1));
                     }
                     seen++;
+                }
+            }
+        }
+
+        private void endLeases() {
+            for (int holding = 0; holding < holdings.size; holding++) {
+                if (isAtItsEnd(holding)) {
+                    goOut(holding);
                 }
             }
         }
