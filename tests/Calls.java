@@ -6,15 +6,37 @@ final class Calls {
 
     private static int wrong = 0;
     private static int asked = 0;
+    private static int sentences = 0;
+    private static String sentence = "";
+    private static int askedAhead = 0;
 
     private Calls() {
+    }
+
+    /** The words of the document that all that is due from here on belong to. */
+    static void sentence(String words) {
+        needAsked();
+        sentences++;
+        sentence = words;
+        askedAhead = asked;
+    }
+
+    private static void needAsked() {
+        if (!sentence.isEmpty() && asked == askedAhead) {
+            wrong++;
+            System.out.println("nothing was asked of: " + sentence);
+        }
+    }
+
+    private static void tell(String fault) {
+        wrong++;
+        System.out.println(fault + (sentence.isEmpty() ? "" : "   [" + sentence + "]"));
     }
 
     static void due(String what, long got, long want) {
         asked++;
         if (got != want) {
-            wrong++;
-            System.out.println(what + " answered " + got + ", due is " + want);
+            tell(what + " answered " + got + ", due is " + want);
         }
     }
 
@@ -26,8 +48,14 @@ final class Calls {
         asked++;
         String got = outcome(call);
         if (!got.equals(want.getSimpleName())) {
-            wrong++;
-            System.out.println(what + " gave " + got + ", due is " + want.getSimpleName());
+            tell(what + " gave " + got + ", due is " + want.getSimpleName());
+        }
+    }
+
+    static void dueSame(String what, String got, String want) {
+        asked++;
+        if (!got.equals(want)) {
+            tell(what + " gave " + got + ", due is " + want);
         }
     }
 
@@ -96,7 +124,8 @@ final class Calls {
     }
 
     static void finish() {
-        System.out.println(asked + " asked, " + wrong + " wrong");
+        needAsked();
+        System.out.println(asked + " asked" + (sentences > 0 ? " by " + sentences + " sentences" : "") + ", " + wrong + " wrong");
         if (wrong != 0) {
             System.exit(1);
         }

@@ -70,8 +70,7 @@ public final class ImageTest {
         Calls.dueNoSuch("tear -1", () -> x.tear(-1, 0, 1));
     }
 
-    private static GreatEstate full() {
-        GreatEstate x = new GreatEstate();
+    private static void full(GreatEstate x) {
         Calls.words(x, 0, "years 4;sell if soil<9;borrow 900;part wood 50;charge 3");
         x.price(1, 0, 20);
         x.rain(0, 2, true);
@@ -88,44 +87,10 @@ public final class ImageTest {
         x.work(0, false);
         x.tear(0, 0, 1);
         x.heir();
-        return x;
     }
 
-    private static String all(GreatEstate x) {
-        StringBuilder s = new StringBuilder();
-        for (int what = 0; what < 19; what++) {
-            s.append(x.count(what)).append(' ');
-        }
-        for (int field = 0; field < 48; field++) {
-            for (int what = 0; what < 13; what++) {
-                s.append(x.look(field, what)).append(' ');
-            }
-            for (int i = 0; i < x.count(17); i++) {
-                s.append(x.row(i, field)).append(' ');
-            }
-        }
-        for (int holding = 0; holding < x.count(4); holding++) {
-            for (int what = 0; what < 11; what++) {
-                s.append(x.led(holding, what)).append(' ');
-            }
-        }
-        for (int loan = 0; loan < x.count(10); loan++) {
-            s.append(x.owing(loan)).append(' ');
-        }
-        for (int i = 0; i < x.count(13); i++) {
-            s.append(x.wrong(i, 0)).append(x.wrong(i, 1)).append(x.wrong(i, 2)).append(x.wrong(i, 3)).append(' ');
-        }
-        for (int what = 0; what < 10; what++) {
-            s.append(x.may(what, 3)).append(' ').append(what < 5 ? x.why(what, 3) : 0).append(' ');
-        }
-        s.append(x.fell(0)).append(' ').append(x.known(1, 0, 3)).append(' ').append(x.known(1, 2, 30));
-        s.append(' ').append(x.worth(100, 1, 7)).append(' ').append(x.best(50, 1)).append(' ').append(x.check());
-        return s.toString();
-    }
-
-    private static void imageOfAll() {
-        GreatEstate x = full();
-        String first = all(x);
+    private static void changed(GreatEstate x) {
+        full(x);
         x.image();
         x.rain(0, -2, true);
         x.price(1, 2, 77);
@@ -141,17 +106,31 @@ public final class ImageTest {
         x.tear(0, 5, 7);
         x.seasons(20);
         x.heir();
-        Calls.due("all is another", all(x).equals(first), false);
-        Calls.due("back", x.back(), true);
-        Calls.due("all is as it was", all(x).equals(first), true);
-        x.seasons(8);
-        String then = all(x);
-        Calls.due("back again", x.back(), true);
-        x.seasons(8);
-        Calls.due("it goes the same way", all(x).equals(then), true);
-        GreatEstate y = full();
-        y.seasons(8);
-        Calls.due("as one without an image", all(y).equals(then), true);
+    }
+
+    private static void imageOfAll() {
+        String first = Whole.of(ImageTest::full);
+        Calls.due("all is another", Whole.of(ImageTest::changed).equals(first), false);
+        Calls.due("all is as it was", Whole.of(x -> {
+            changed(x);
+            Calls.due("back", x.back(), true);
+        }).equals(first), true);
+        String then = Whole.of(x -> {
+            changed(x);
+            x.back();
+            x.seasons(8);
+        });
+        Calls.due("it goes the same way", Whole.of(x -> {
+            changed(x);
+            x.back();
+            x.seasons(8);
+            Calls.due("back again", x.back(), true);
+            x.seasons(8);
+        }).equals(then), true);
+        Calls.due("as one without an image", Whole.of(x -> {
+            full(x);
+            x.seasons(8);
+        }).equals(then), true);
     }
 
     private static void imageKeepsTexts() {
@@ -196,7 +175,8 @@ public final class ImageTest {
     }
 
     private static void counts() {
-        GreatEstate x = full();
+        GreatEstate x = new GreatEstate();
+        full(x);
         int[] due = {6, 1, x.count(2), x.count(3), 4, 4, x.count(6), 40, 1, 5, 1, 160, 1, 0, 1, x.count(15), 3, 2, x.count(18)};
         for (int what = 0; what < due.length; what++) {
             Calls.due("count " + what, x.count(what), due[what]);

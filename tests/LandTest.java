@@ -14,13 +14,14 @@ public final class LandTest {
     }
 
     private static void newObject() {
-        GreatEstate x = new GreatEstate();
         int[] first = {5, 0, 0, 0, 0, 0, 0, 0, 0, 0, -1, 0, 200};
         for (int field = 0; field < 48; field++) {
+            GreatEstate each = new GreatEstate();
             for (int what = 0; what < 13; what++) {
-                Calls.due("new look " + field + " " + what, x.look(field, what), first[what]);
+                Calls.due("new look " + field + " " + what, each.look(field, what), first[what]);
             }
         }
+        GreatEstate x = new GreatEstate();
         for (int what = 0; what < 19; what++) {
             Calls.due("new count " + what, x.count(what), 0);
         }

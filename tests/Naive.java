@@ -947,10 +947,10 @@ final class Naive {
         long rent = Math.max(0, rentOf(h) - eaten * hundredths / 100);
         long off = most < 0 ? -h.put : rent * most / 100;
         h.put = cap(h.put + off);
-        long owed = cap(h.arrears + cap(rent - off));
+        long owed = h.arrears + rent - off;
         long pays = Math.max(0, Math.min(h.coin, owed));
         h.coin -= pays;
-        h.arrears = owed - pays;
+        h.arrears = cap(owed - pays);
         return pays;
     }
 

@@ -1246,8 +1246,8 @@ public final class GreatEstate {
             return what >= 0 && what < COLUMNS && holding >= 0 && holding < HOLDINGS;
         }
 
-        void grow(int what, int holding, int n) {
-            set(what, holding, capped((long) get(what, holding) + n));
+        void grow(int what, int holding, long n) {
+            set(what, holding, capped(get(what, holding) + n));
         }
 
         /** A new holding of a kind, all else of it 0; NONE if there is no room. */
@@ -2023,22 +2023,23 @@ public final class GreatEstate {
             ledger.addIncome(coins);
         }
 
+        /** What is owed here is no sum that is kept, so it is not bounded: the ARREARS are, behind what is paid. */
         private void takeRent(int holding) {
-            int rent = Math.max(0, estate.rentOf(holding) - harmOfGame(holding));
+            long rent = Math.max(0, estate.rentOf(holding) - harmOfGame(holding));
             int hundredths = hundredthsPut(holding);
-            int due;
+            long due;
             if (hundredths == NONE) {
-                due = capped((long) rent + holdings.get(Holdings.PUT, holding));
+                due = rent + holdings.get(Holdings.PUT, holding);
                 holdings.set(Holdings.PUT, holding, 0);
             } else {
-                int off = (int) ((long) rent * hundredths / 100);
+                long off = rent * hundredths / 100;
                 due = rent - off;
                 holdings.grow(Holdings.PUT, holding, off);
             }
-            int owed = capped((long) holdings.get(Holdings.ARREARS, holding) + due);
-            int paid = Math.min(owed, Math.max(0, holdings.get(Holdings.COIN, holding)));
+            long owed = holdings.get(Holdings.ARREARS, holding) + due;
+            int paid = (int) Math.min(owed, Math.max(0, holdings.get(Holdings.COIN, holding)));
             holdings.grow(Holdings.COIN, holding, -paid);
-            holdings.set(Holdings.ARREARS, holding, owed - paid);
+            holdings.set(Holdings.ARREARS, holding, capped(owed - paid));
             receive(holding, paid);
         }
 
