@@ -8,12 +8,16 @@ public final class NaiveTest {
         int on(Naive naive);
     }
 
-    private static final int RUNS = 500;
-    private static final int CALLS = 330;
+    private static final int RUNS = 900;
+    private static final int CALLS = 400;
+    private static final int MOST_CALLS = 512;
 
     private final Random random;
     private final boolean tame;
-    private final GreatEstate real = new GreatEstate();
+    private final boolean great;
+    private GreatEstate real = new GreatEstate();
+    private int calls = 0;
+    private final List<Calls.Call> done = new ArrayList<>();
     private Naive naive = new Naive();
     private String tape = "";
     private int fault = -1;
@@ -24,6 +28,7 @@ public final class NaiveTest {
     private NaiveTest(int seed) {
         random = new Random(seed);
         tame = seed % 3 != 0;
+        great = seed % 7 == 4;
     }
 
     public static void main(String[] args) {
@@ -41,8 +46,9 @@ public final class NaiveTest {
     }
 
     private boolean run() {
-        for (int i = 0; i < CALLS; i++) {
-            if (!one() || i % 20 == 19 && !sameInAll()) {
+        int last = 60 + random.nextInt(CALLS - 60);
+        while (calls < last) {
+            if (!one()) {
                 return false;
             }
         }
@@ -53,6 +59,7 @@ public final class NaiveTest {
         String got = Calls.outcome(call);
         String due;
         history.add(naiveCall);
+        did(call, 1);
         try {
             due = String.valueOf(naiveCall.on(naive));
         } catch (Naive.Wrong e) {
@@ -67,36 +74,64 @@ public final class NaiveTest {
         return got.equals(due);
     }
 
+    private void did(Calls.Call call, int howMany) {
+        done.add(call);
+        calls += howMany;
+    }
+
+    /** What is asked of the whole goes beyond 512 calls: the run is done anew on as many objects as it takes. */
     private boolean sameInAll() {
-        for (int what = -1; what < 20; what++) {
-            int w = what;
-            if (!ask("count(" + w + ")", () -> real.count(w), n -> n.count(w))) {
+        List<Question> questions = questions();
+        int each = MOST_CALLS - calls;
+        for (int i = 0; i < questions.size(); i++) {
+            if (i % each == 0) {
+                real = new GreatEstate();
+                done.forEach(Calls::outcome);
+            }
+            Question question = questions.get(i);
+            int got = question.real.answer(real);
+            int due = question.naive.on(naive);
+            if (got != due) {
+                told.add("  " + question.name + " = " + got);
+                told.add("  due is " + due);
                 return false;
             }
         }
-        for (int field = 0; field < 48; field++) {
-            for (int what = 0; what < 13; what++) {
-                if (real.look(field, what) != naive.look(field, what)) {
-                    told.add("  look(" + field + ", " + what + ") = " + real.look(field, what) + " due is " + naive.look(field, what));
-                    return false;
-                }
-            }
-            for (int i = 0; i < real.count(17); i++) {
-                if (real.row(i, field) != naive.row(i, field)) {
-                    told.add("  row(" + i + ", " + field + ")");
-                    return false;
-                }
-            }
-        }
-        for (int holding = 0; holding < real.count(4); holding++) {
-            for (int what = 0; what < 11; what++) {
-                if (real.led(holding, what) != naive.led(holding, what)) {
-                    told.add("  led(" + holding + ", " + what + ") = " + real.led(holding, what) + " due is " + naive.led(holding, what));
-                    return false;
-                }
-            }
-        }
         return true;
+    }
+
+    interface RealCall {
+        int answer(GreatEstate x);
+    }
+
+    record Question(String name, RealCall real, Call naive) {
+    }
+
+    private List<Question> questions() {
+        List<Question> all = new ArrayList<>();
+        for (int what = -1; what < 20; what++) {
+            int w = what;
+            all.add(new Question("count(" + w + ")", x -> x.count(w), n -> n.count(w)));
+        }
+        for (int field = 0; field < 48; field++) {
+            int f = field;
+            for (int what = 0; what < 13; what++) {
+                int w = what;
+                all.add(new Question("look(" + f + ", " + w + ")", x -> x.look(f, w), n -> n.look(f, w)));
+            }
+            for (int row = 0; row < naive.count(17); row++) {
+                int i = row;
+                all.add(new Question("row(" + i + ", " + f + ")", x -> x.row(i, f), n -> n.row(i, f)));
+            }
+        }
+        for (int holding = 0; holding < naive.count(4); holding++) {
+            int h = holding;
+            for (int what = 0; what < 11; what++) {
+                int w = what;
+                all.add(new Question("led(" + h + ", " + w + ")", x -> x.led(h, w), n -> n.led(h, w)));
+            }
+        }
+        return all;
     }
 
     private int upTo(int most) {
@@ -169,7 +204,7 @@ public final class NaiveTest {
             case 3: {
                 int crop = number(1, 4);
                 int y = random.nextInt(4) == 0 ? number(0, 100) : Math.min(100, naive.season / 4 + random.nextInt(3));
-                int b = number(0, random.nextBoolean() ? 100 : 20);
+                int b = great ? 60 + random.nextInt(41) : number(0, random.nextBoolean() ? 100 : 20);
                 int s = number(0, 400);
                 return ask("price(" + crop + ", " + y + ", " + b + ")", () -> real.price(crop, y, b), n -> n.tell(crop, y, b))
                     && ask("known(" + crop + ", " + y + ", " + s + ")", () -> real.known(crop, y, s), n -> n.known(crop, y, s));
@@ -179,10 +214,27 @@ public final class NaiveTest {
                 return ask("look(" + a + ", " + what + ")", () -> real.look(a, what), n -> n.look(a, what));
             }
             default: {
-                int s = number(0, random.nextInt(8) == 0 ? 40 : 6);
-                return ask("seasons(" + s + ")", () -> real.seasons(s), n -> n.seasons(s));
+                int s = number(0, great || random.nextInt(8) == 0 ? 40 : 6);
+                return ask("seasons(" + s + ")", () -> real.seasons(s), n -> n.seasons(s)) && sameInSome();
             }
         }
+    }
+
+    /** What the seasons have done, by a few questions at hazard. */
+    private boolean sameInSome() {
+        for (int i = 0; i < 8; i++) {
+            int what = random.nextInt(19);
+            int field = random.nextInt(48);
+            int of = random.nextInt(13);
+            int holding = random.nextInt(Math.max(1, naive.holdings.size()));
+            int led = random.nextInt(11);
+            if (i % 4 == 0 && !ask("count(" + what + ")", () -> real.count(what), n -> n.count(what))
+                || i % 4 == 1 && !ask("led(" + holding + ", " + led + ")", () -> real.led(holding, led), n -> n.led(holding, led))
+                || i % 4 > 1 && !ask("look(" + field + ", " + of + ")", () -> real.look(field, of), n -> n.look(field, of))) {
+                return false;
+            }
+        }
+        return true;
     }
 
     private int rain(int year, int n, boolean is) {
@@ -198,7 +250,7 @@ public final class NaiveTest {
             case 0:
             case 1:
             case 2: {
-                setTape(Phrases.text(random, true));
+                setTape(text(true));
                 int years = random.nextBoolean() ? 0 : number(0, random.nextInt(4) == 0 ? 99 : 6);
                 int coin = number(0, random.nextBoolean() ? 100000 : 300);
                 boolean forced = random.nextBoolean();
@@ -241,7 +293,7 @@ public final class NaiveTest {
         boolean flag = random.nextBoolean();
         switch (random.nextInt(10)) {
             case 0: {
-                setTape(Phrases.text(random, false));
+                setTape(text(false));
                 int s = random.nextInt(3) == 0 ? number(0, 400) : naive.season + random.nextInt(9);
                 String text = useTape();
                 return ask("words(" + s + ") of '" + text + "'", () -> real.words(s), n -> n.words(text, s)) && sameFault(text, false);
@@ -310,20 +362,20 @@ public final class NaiveTest {
                 return ask("tear(" + i + ", " + a + ", " + mask + ")", () -> real.tear(i, a, mask), n -> n.tear(i, a, mask));
             }
             case 6:
-                return ask("check()", real::check, Naive::check);
+                return ask("check()", () -> real.check(), Naive::check);
             case 7: {
                 int i = number(0, 5);
                 int what = number(0, 3);
                 return ask("wrong(" + i + ", " + what + ")", () -> real.wrong(i, what), n -> n.wrong(i, what));
             }
             case 8:
-                return random.nextBoolean() || ask("heir()", real::heir, Naive::heir);
+                return random.nextBoolean() || ask("heir()", () -> real.heir(), Naive::heir);
             case 9:
                 return keepImage();
             case 10:
                 return goBack();
             default: {
-                setTape(Phrases.text(random, random.nextBoolean()));
+                setTape(text(random.nextBoolean()));
                 return true;
             }
         }
@@ -332,6 +384,10 @@ public final class NaiveTest {
     private boolean keepImage() {
         told.add("  image()");
         real.image();
+        did(() -> {
+            real.image();
+            return 0;
+        }, 1);
         image = new ArrayList<>(history);
         return true;
     }
@@ -339,6 +395,7 @@ public final class NaiveTest {
     /** All calls up to the image are done anew. */
     private boolean goBack() {
         boolean got = real.back();
+        did(() -> Calls.bit(real.back()), 1);
         told.add("  back() = " + got);
         if (got != (image != null)) {
             return false;
@@ -354,9 +411,17 @@ public final class NaiveTest {
         return true;
     }
 
+    private String text(boolean lease) {
+        return great && random.nextInt(3) > 0 ? Phrases.great(random, lease) : Phrases.text(random, lease);
+    }
+
     private void setTape(String text) {
         tape = text;
         Calls.tape(real, text);
+        did(() -> {
+            Calls.tape(real, text);
+            return 0;
+        }, 2 + (text.length() + 19) / 20);
     }
 
     private String useTape() {
@@ -377,6 +442,7 @@ public final class NaiveTest {
         boolean throwsNumber = call.endsWith("= IllegalArgumentException");
         boolean throwsIndex = call.endsWith("= IndexOutOfBoundsException");
         int got = real.fault();
+        calls += 2;
         told.add("  fault() = " + got + ", of this text " + due + ", ahead " + fault);
         if (real.end(1)) {
             told.add("  the tape was not used up");

@@ -53,6 +53,18 @@ final class Phrases {
         return r.nextInt(6) == 0 ? spoil(r, text) : text;
     }
 
+    /** A text by which sums of coin come to their bounds. */
+    static String great(Random r, boolean lease) {
+        if (!lease) {
+            return r.nextInt(3) == 0 ? "charge 999999;charge 999999;part drain 100;borrow 999999;charge 999999 if year<30" : "part drain 100;part lime 100;borrow 999999";
+        }
+        StringBuilder s = new StringBuilder(one(r, "rent 1", "put 100 if year<9;rent 7", "put 60 if 1<2", "game 100", "waste 999999 if worn>2"));
+        for (int i = 0; i < 13; i++) {
+            s.append(one(r, ";corn 999999 of wheat", ";corn 999999 of barley", ";owe drain 999999", ";owe drain 999999"));
+        }
+        return s.toString();
+    }
+
     private static String shortLine(Random r, boolean lease) {
         return lease ? one(r, "rent 3", "waste 1", "game 9", "owe lime 1") : one(r, "sell", "fell", "years 5", "charge 1", "part mine 7", "strike sell");
     }
