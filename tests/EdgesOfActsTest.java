@@ -13,6 +13,7 @@ public final class EdgesOfActsTest {
         works();
         worksOfASoldField();
         worksWithoutCoin();
+        restOfOne();
         partOfNothing();
         worthOfAField();
         selling();
@@ -265,6 +266,19 @@ public final class EdgesOfActsTest {
                 Calls.due("income then", x.count(2), enough ? 0 : income);
             }
         }
+    }
+
+    private static void restOfOne() {
+        Calls.sentence("or CAPITAL or INCOME is not enough for its part");
+        GreatEstate x = new GreatEstate();
+        Calls.words(x, 0, "part lime 99");
+        x.loan(7, 0, 40, true);
+        Calls.due("7 of capital, 1 of income: none is there", x.work(0, true), false);
+        x.keep(47, 47, 5, 1, 0);
+        x.seasons(3);
+        Calls.due("1 is there", x.work(0, true), true);
+        Calls.due("capital", x.count(3), 0);
+        Calls.due("income", x.count(2), 0);
     }
 
     private static void partOfNothing() {

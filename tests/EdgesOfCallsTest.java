@@ -59,7 +59,7 @@ public final class EdgesOfCallsTest {
         x.work(0, false);
         x.cut(4, true);
         x.notice(2);
-        x.tear(0, 0, 1);
+        x.tear(0, 46, 1);
         x.heir();
         Calls.tape(x, "sell;years 7");
     }
@@ -388,6 +388,7 @@ public final class EdgesOfCallsTest {
 
     private static void change(GreatEstate x) {
         x.rain(0, -2, true);
+        x.rain(100, 4, true);
         x.price(1, 2, 77);
         Calls.words(x, 6, "strike years;strike sell;part land 9;charge 50");
         Calls.farm(x, 40, 41, 9, 0, "rent 7");
@@ -448,6 +449,7 @@ public final class EdgesOfCallsTest {
             change(x);
             x.back();
         }).equals(FULL), true);
+        nextNumbers();
         Calls.due("an image of a new object", Whole.andThen(x -> {
             x.image();
             full(x);
@@ -459,6 +461,22 @@ public final class EdgesOfCallsTest {
             x.seasons(40);
             x.back();
         }).equals(Whole.andThen(EdgesOfCallsTest::crowded)), true);
+    }
+
+    /** What comes behind going back has the numbers that it would have had. */
+    private static void nextNumbers() {
+        GreatEstate x = new GreatEstate();
+        full(x);
+        x.image();
+        change(x);
+        x.back();
+        Calls.due("tellings", x.price(1, 0, 20), 3);
+        Calls.due("works", x.job(1, 1, 1), 3);
+        Calls.due("troubles", x.trouble(1, 1), 2);
+        Calls.due("holdings", x.keep(40, 40, 2, 0, 0), 7);
+        Calls.due("loans", x.loan(1, 0, 1, true), 1);
+        Calls.due("texts", Calls.words(x, 6, "sell") + x.count(8), 1 + 3);
+        Calls.due("wrongs", x.count(13), 2);
     }
 
     private static void whatAnImageLeaves() {

@@ -147,6 +147,7 @@ public final class EdgesOfPlansTest {
         x.trouble(-1, 1);
         Calls.due("not through one", x.worth(0, 0, 0), LOST);
         Calls.due("through it with a coin: 1 less 30 and 435, and 31, 91, 61", x.worth(1, 0, 0), 31);
+        Calls.due("the charge goes in each: 91, 31, 61 and 406 less 30", x.worth(31, 1, 0), 31);
     }
 
     private static void bitsOfOthers() {
@@ -268,6 +269,7 @@ public final class EdgesOfPlansTest {
         Calls.due("may not be sold", x.toSell(3, 1, 1), -1);
         Calls.due("those alone that may", x.toSell(2, 3, 1), 4);
         Calls.due("not enough by those", x.toSell(2, 3, 201), -1);
+        Calls.due("not enough without a sold one behind", x.toSell(1, 2, 201), -1);
     }
 
     private static void worthTogether() {
@@ -293,6 +295,9 @@ public final class EdgesOfPlansTest {
         Calls.due("of the second row the edges part 3", x.toSell(8, 8, 150), 1);
         Calls.due("two corners by the row's end", x.toSell(7, 2, 400), 3);
         Calls.due("those within part 4", x.toSell(9, 6, 150), 1);
+        x.field(8, 4, 0, 0, 0, 0);
+        Calls.due("one above counts: 2 by 7, 3 by 8", x.toSell(7, 2, 150), 1);
+        x.field(8, 5, 0, 0, 0, 0);
         Calls.due("two beside one another part 6, not 8", x.toSell(9, 6, 400), 3);
     }
 
@@ -368,6 +373,7 @@ public final class EdgesOfPlansTest {
         for (int year = 0; year < 7; year++) {
             int rows = Math.min(4, year + 1);
             Calls.due("rows by year " + year, x.count(17), rows);
+            Calls.due("check by year " + year, x.check(), -1);
             for (int i = 0; i < rows; i++) {
                 Calls.due("row " + i + " by year " + year, x.row(i, 47), 13 - (year - rows + 1 + i));
                 Calls.due("of the first field", x.row(i, 0), 0);

@@ -7,8 +7,10 @@ public final class EdgesOfSeasonsTest {
         barAfterTheCropThatItHas();
         othersHaveNoCrop();
         yieldsOfCrops();
+        rainOfItsYear();
         fallowCountsNothingElse();
         wornWetAndSunk();
+        lastYearOfAThing();
         zeroAtLeast();
         gameEats();
         wornWithinBounds();
@@ -67,7 +69,7 @@ public final class EdgesOfSeasonsTest {
     private static void greatestHopeOfSeveralTheFirst() {
         Calls.sentence("and whose HOPE is the greatest, of several the first:");
         int[][] all = {{10, 10, 10, 10, 1}, {12, 13, 10, 10, 1}, {0, 0, 0, 0, 1}, {0, 0, 0, 1, 4}, {10, 11, 12, 13, 2}, {11, 12, 13, 15, 4},
-            {0, 11, 12, 0, 2}, {0, 11, 13, 0, 3}, {0, 0, 10, 11, 3}};
+            {0, 11, 12, 0, 2}, {0, 11, 13, 0, 3}, {0, 0, 10, 11, 3}, {30, 0, 0, 39, 1}, {30, 0, 0, 40, 4}, {10, 0, 0, 13, 1}};
         for (int[] n : all) {
             GreatEstate x = new GreatEstate();
             Calls.yearly(x, 0, 0, 0, "");
@@ -172,6 +174,18 @@ public final class EdgesOfSeasonsTest {
         }
     }
 
+    private static void rainOfItsYear() {
+        Calls.sentence("and RAIN, and 2 with LIME");
+        GreatEstate x = hand(3);
+        for (int year = 0; year < 11; year++) {
+            x.rain(year, year - 5, true);
+        }
+        for (int year = 0; year < 11; year++) {
+            x.seasons(year == 0 ? 2 : 4);
+            Calls.due("by the rain of year " + year, x.look(0, 9), 11 + year - 5);
+        }
+    }
+
     private static void fallowCountsNothingElse() {
         Calls.sentence("(fallow 0: nothing else counts)");
         GreatEstate x = rich();
@@ -215,6 +229,25 @@ public final class EdgesOfSeasonsTest {
         y.sow(0, 1);
         y.seasons(2);
         Calls.due("sunk by 3", y.look(0, 9), 13 - 6);
+    }
+
+    private static void lastYearOfAThing() {
+        Calls.sentence("DRAIN and LIME: years that are left of them (0)");
+        GreatEstate x = rich();
+        x.keep(0, 1, 2, 0, 0);
+        x.sow(0, 1);
+        x.sow(1, 1);
+        x.work(0, true);
+        x.work(1, false);
+        for (int year = 1; year <= 21; year++) {
+            x.field(0, 5, 0, 0, 0, 0);
+            x.field(1, 5, 9, 0, 0, 0);
+            x.seasons(year == 1 ? 3 : 4);
+            Calls.due("lime in year " + year + ": 5 summers", x.look(0, 9), year <= 5 ? 15 : 13);
+            Calls.due("drain in year " + year + ": 19 summers", x.look(1, 9), year <= 19 ? 10 : 4);
+            x.field(1, 5, 9, 0, 0, 0);
+            Calls.due("worth by drain in year " + year, x.look(1, 12), year <= 19 ? 200 : 110);
+        }
     }
 
     private static void zeroAtLeast() {
@@ -387,6 +420,12 @@ public final class EdgesOfSeasonsTest {
             x.seasons(4);
             Calls.due("it grows by " + n[0], x.led(0, 4), 2 * n[1]);
         }
+        GreatEstate y = new GreatEstate();
+        Calls.yearly(y, 0, 0, 1000, "put 50 if 1<2;rent 100");
+        Calls.yearly(y, 1, 1, 1000, "rent 100;put 50 if 1<2");
+        y.seasons(3);
+        Calls.due("a put LINE that is the first", y.led(0, 4), 50);
+        Calls.due("or the last", y.led(1, 4), 50);
     }
 
     private static void elseAllIsDue() {
@@ -677,6 +716,10 @@ public final class EdgesOfSeasonsTest {
         Calls.due("its coin stays", x.led(2, 2), 0);
         Calls.due("it is not what it paid", x.led(2, 7), 0);
         Calls.due("the things stay", x.look(1, 4), 19);
+        income = x.count(2);
+        x.seasons(4);
+        Calls.due("it goes out once", x.led(2, 9), 11 * 38 + 100 * 5);
+        Calls.due("nothing more is paid", x.count(2), income + 2000);
     }
 
     private static void wasteZeroAtLeast() {

@@ -340,6 +340,9 @@ public final class EdgesOfTextsTest {
         lease("rent5if1<2and2<3or not(1<2)");
         lease("^rents 5");
         lease("^ren 5");
+        lease("^rentz 5");
+        lease("^zrent 5");
+        lease("^renta 5");
         lease("^re nt 5");
         lease("^rentif 5");
         lease("^Rent 5");
@@ -466,6 +469,8 @@ public final class EdgesOfTextsTest {
         Calls.due("sell of another", x.may(3, 10), 0);
         Calls.words(x, 0, "charge 3 if age+worn+wet+soil<1;charge 50 if age+worn+wet+soil>0");
         Calls.due("none of a charge", x.may(4, 9), 3);
+        Calls.words(x, 0, "charge 7 if 1<age+2 and 1<worn+2 and 1<wet+2 and 1<soil+2");
+        Calls.due("they are 0, not less", x.may(4, 9), 10);
         x.keep(0, 0, 5, 1000, 0);
         x.seasons(3);
         x.work(9, true);
@@ -495,9 +500,17 @@ public final class EdgesOfTextsTest {
         y.field(0, 0, 9, 20, 0, 0);
         Calls.yearly(y, 0, 0, 6, "waste 10 if coin>5;waste 3 if arrears>0;owe lime 5");
         y.keep(1, 1, 5, 1000, 0);
+        Calls.yearly(y, 2, 2, 0, "");
         y.seasons(3);
         y.work(0, true);
-        Calls.due("waste by its coin", y.owed(0), 20);
+        Calls.due("another one's rent", y.rent(2), 0);
+        Calls.due("waste by its own coin", y.owed(0), 20);
+        y.price(1, 1, 0);
+        Calls.yearly(y, 3, 3, 0, "owe lime 5;waste 10 if coin>0");
+        Calls.due("waste of another", y.owed(3), 0);
+        y.work(3, true);
+        Calls.due("the first one's, which has coin", y.owed(0), 20);
+        Calls.due("not by the first one's coin", y.owed(3), 30);
     }
 
     private static void factsOfTheEstate() {
@@ -516,6 +529,11 @@ public final class EdgesOfTextsTest {
         Calls.due("income is 9", x.why(3, 0), 0);
         Calls.due("fell at 9", x.may(1, 0), 0);
         Calls.due("charge at 9", x.may(4, 0), 5);
+        Calls.due("a tenant's rent, without coin", x.rent(0), 500);
+        Calls.due("why by the income, not by its coin", x.why(4, 0), 3);
+        Calls.due("may by the income, not by its coin", x.rent(0) + x.may(4, 0), 505);
+        Calls.words(x, 3, "charge 9 if 1<arrears+2");
+        Calls.due("arrears are 0, not less", x.may(4, 0), 14);
     }
 
     private static void wordsRefuse() {
