@@ -59,7 +59,7 @@ public final class EdgesOfCallsTest {
         x.work(0, false);
         x.cut(4, true);
         x.notice(2);
-        x.tear(0, 46, 1);
+        x.tear(1, 46, 1);
         x.heir();
         Calls.tape(x, "sell;years 7");
     }
